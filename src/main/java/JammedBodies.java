@@ -25,7 +25,7 @@ public final class JammedBodies {
     private static final int MOST_ROUNDS = 1000;
 
     private static final int ALL_DIRECTIONS = 8;
-    private static final int STRAIGHT_DIRECTIONS = 0x55;
+    private static final int TO_NEXT_STRAIGHT = 2;
     private static final int[] STEP_X = {1, 1, 0, -1, -1, -1, 0, 1};
     private static final int[] STEP_Y = {0, 1, 1, 1, 0, -1, -1, -1};
 
@@ -161,7 +161,7 @@ public final class JammedBodies {
             case 8:
                 return packing.freeDirections(body);
             case 9:
-                return (packing.freeDirections(body) & STRAIGHT_DIRECTIONS) == 0 ? 1 : 0;
+                return packing.jammed() >> body & 1;
             default:
                 return placeOfCorner(told, what - 10);
         }
@@ -732,7 +732,11 @@ public final class JammedBodies {
         int jammed() {
             int set = 0;
             for (int k = 0; k < size; k++) {
-                if ((freeDirections(k) & STRAIGHT_DIRECTIONS) == 0) {
+                boolean free = false;
+                for (int direction = 0; direction < ALL_DIRECTIONS && !free; direction += TO_NEXT_STRAIGHT) {
+                    free = freeSteps(k, direction, 1) == 1;
+                }
+                if (!free) {
                     set |= 1 << k;
                 }
             }

@@ -52,6 +52,8 @@ public final class BoxTest {
     Due.is("box(14, 61), with a body that would be outside", x.box(14, 61), Due.INVALID);
     Due.is("count(6) behind errors", x.count(6), 3);
     Due.is("box(15, 18)", x.box(15, 18), 3040);
+    JammedBodies first = Due.with(30, 40, "12,3;15,3;14,18", "1,1;2,1;1,2");
+    Due.is("box(14, 40)", first.box(14, 40), Due.IMPOSSIBLE);
     Due.is("walls", x.bodyOf(1, 6), 10);
   }
 

@@ -164,6 +164,18 @@ public final class ModelTest {
   }
 
   private void ask(String name, int a, int b, int c) {
+    if (random.nextInt(100) == 0) {
+      askAs(name, extreme(a), extreme(b), extreme(c));
+    }
+    askAs(name, a, b, c);
+  }
+
+  private int extreme(int argument) {
+    int[] extremes = {Integer.MIN_VALUE, Integer.MAX_VALUE, -1, 8, 61, argument, argument};
+    return extremes[random.nextInt(extremes.length)];
+  }
+
+  private void askAs(String name, int a, int b, int c) {
     if (calls >= CALLS) return;
     calls++;
     int got = real(name, a, b, c);

@@ -100,6 +100,34 @@ public final class TextsTest {
     fault(x, "8,8;12,8;8,12;8,8;12,8;8,12", 0, 3, 6);
     fault(x, "10,14;8,8;13,12;7,12;12,8;11,11", 0, 3, 5);
     fault(x, "0,0;4,4;4,0", 0, 3, 0);
+    Due.is("box(60, 60)", x.box(60, 60), 2020);
+    int[][] star = {{30, 50}, {18, 14}, {49, 36}, {11, 36}, {42, 14}};
+    int[][] twice = {{20, 10}, {40, 10}, {30, 30}, {20, 11}, {41, 10}, {30, 31}};
+    for (int quarter = 0; quarter < 4; quarter++) {
+      for (int first = 0; first < 6; first++) {
+        fault(x, turned(star, first % 5, quarter), 0, 3, 5);
+        fault(x, turned(twice, first, quarter), 0, 3, 6);
+        int[][] small = {{50, 14}, {48, 8}, {54, 12}, {46, 12}, {52, 8}};
+        fault(x, turned(small, first % 5, quarter), 0, 3, 5);
+      }
+    }
+  }
+
+  /** Told from another corner, and turned by quarters around the middle of a box of 60. */
+  private static String turned(int[][] corners, int first, int quarters) {
+    StringBuilder text = new StringBuilder();
+    for (int k = 0; k < corners.length; k++) {
+      int[] corner = corners[(first + k) % corners.length];
+      int x = corner[0];
+      int y = corner[1];
+      for (int quarter = 0; quarter < quarters; quarter++) {
+        int old = x;
+        x = 60 - y;
+        y = old;
+      }
+      text.append(k > 0 ? ";" : "").append(x).append(',').append(y);
+    }
+    return text.toString();
   }
 
   private static void promise20Overlap() {

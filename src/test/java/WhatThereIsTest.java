@@ -4,8 +4,10 @@ public final class WhatThereIsTest {
     promise9BodyOf();
     promise9Contacts();
     promise9Jammed();
+    promise9Extent();
     promise9Wrong();
     promise10Parts();
+    promise10EachSide();
     promise10NearestCorner();
     promise10Wrong();
     promise11Way();
@@ -18,6 +20,7 @@ public final class WhatThereIsTest {
     promise15Wrong();
     promise16Count();
     promise17Undo();
+    promise17LongHistory();
     promise17EveryChange();
     Due.end();
   }
@@ -74,6 +77,27 @@ public final class WhatThereIsTest {
     Due.is("all of the box is jammed", Due.with(10, 10, Due.rectangle(0, 0, 10, 10)).bodyOf(0, 9), 1);
   }
 
+  /** Whichever corner is the farthest one, it counts. */
+  private static void promise9Extent() {
+    String[] places = {"4,1", "7,2", "8,5", "6,8", "2,7", "1,3"};
+    for (int first = 0; first < 6; first++) {
+      StringBuilder text = new StringBuilder();
+      for (int k = 0; k < 6; k++) {
+        text.append(k > 0 ? ";" : "").append(places[(first + k) % 6]);
+      }
+      JammedBodies x = Due.with(10, 10, text.toString());
+      int[] due = {1, 8, 1, 8};
+      for (int what = 2; what < 6; what++) {
+        Due.is("bodyOf(0, " + what + ") of " + text, x.bodyOf(0, what), due[what - 2]);
+      }
+      Due.is("twice the area of " + text, x.bodyOf(0, 1), 68);
+      int[] steps = {2, 2, 2, 1, 1, 1, 1, 1};
+      for (int direction = 0; direction < 8; direction++) {
+        Due.is("way(0, " + direction + ", 0) of " + text, x.way(0, direction, 0), steps[direction]);
+      }
+    }
+  }
+
   private static void promise9Wrong() {
     JammedBodies x = Due.with(20, 20, "0,0;4,0;4,4");
     Due.is("bodyOf(-1, 0)", x.bodyOf(-1, 0), Due.INVALID);
@@ -103,6 +127,33 @@ public final class WhatThereIsTest {
     JammedBodies last = Due.with(20, 20, Due.rectangle(6, 0, 9, 4), Due.rectangle(0, 0, 5, 4));
     Due.is("the side from the last corner to the first one", last.parts(0, 1, 0), 3);
     Due.is("parts(0, 1, 2)", last.parts(0, 1, 2), 4);
+  }
+
+  /** Each side of a body alone parts it from a body that touches it there, whichever side comes first. */
+  private static void promise10EachSide() {
+    String[] places = {"8,8", "12,8", "12,12", "8,12"};
+    String[] others = {Due.rectangle(6, 4, 14, 8), Due.rectangle(12, 6, 16, 14), Due.rectangle(6, 12, 14, 16),
+        Due.rectangle(4, 6, 8, 14)};
+    for (int first = 0; first < 4; first++) {
+      StringBuilder text = new StringBuilder();
+      for (int k = 0; k < 4; k++) {
+        text.append(k > 0 ? ";" : "").append(places[(first + k) % 4]);
+      }
+      for (int other = 0; other < 4; other++) {
+        JammedBodies x = Due.with(20, 20, text.toString(), others[other]);
+        Due.is("parts(0, 1, 0) of " + text + " and " + others[other], x.parts(0, 1, 0), (other + 4 - first) % 4);
+        Due.is("parts(1, 0, 0)", x.parts(1, 0, 0), (other + 2) % 4);
+        Due.is("they touch", x.bodyOf(0, 7), 2);
+      }
+    }
+    JammedBodies corner = Due.with(10, 10, "0,0;3,0;0,3", "2,1;4,1;4,3");
+    Due.is("a corner at a slope", corner.parts(1, 0, 0), 11);
+    Due.is("they touch there", corner.bodyOf(1, 7), 1);
+    JammedBodies hair = Due.with(20, 20, "0,0;7,0;0,5", "3,3;9,3;9,6");
+    Due.is("as near as can be without a contact", hair.parts(0, 1, 2), 1);
+    Due.is("no contact", hair.bodyOf(0, 7), 0);
+    JammedBodies across = Due.with(20, 20, "0,0;7,0;0,5");
+    Due.is("as little as can be across a side", Due.put(across, "4,2;9,5;5,6"), Due.IMPOSSIBLE);
   }
 
   private static void promise10NearestCorner() {
@@ -137,6 +188,10 @@ public final class WhatThereIsTest {
     }
     Due.is("nothing has moved", x.bodyOf(0, 4), 8);
     Due.is("count(6)", x.count(6), 4);
+    JammedBodies thin = Due.with(10, 10, Due.rectangle(0, 0, 1, 1), Due.rectangle(4, 0, 5, 1), Due.rectangle(5, 0, 6, 1),
+        "0,5;2,6;0,6");
+    Due.is("one step more, not two", thin.way(0, 0, 1), 2);
+    Due.is("one step more, not two", thin.way(0, 2, 1), 0 + 8);
     JammedBodies corner = Due.with(10, 10, Due.rectangle(0, 0, 10, 10));
     int[] walls = {2, 10, 8, 9, 1, 5, 4, 6};
     for (int direction = 0; direction < 8; direction++) {
@@ -169,6 +224,10 @@ public final class WhatThereIsTest {
     JammedBodies x = Due.with(20, 20, Due.rectangle(8, 8, 10, 10), Due.rectangle(5, 0, 7, 2), Due.rectangle(7, 2, 9, 4),
         Due.rectangle(7, 4, 8, 7), Due.rectangle(0, 12, 2, 14), Due.rectangle(18, 12, 20, 14), Due.rectangle(9, 18, 11, 20),
         Due.rectangle(10, 10, 12, 12));
+    JammedBodies first = Due.with(20, 20, Due.rectangle(0, 0, 2, 2), Due.rectangle(6, 6, 8, 8), Due.rectangle(8, 8, 9, 9));
+    Due.is("those that touch no body", first.bodies(1), 1);
+    Due.is("those that touch a wall", first.bodies(2), 1);
+    Due.is("those that hang together with the wall below", first.bodies(3), 1);
     Due.is("jammed", x.bodies(0), 0);
     Due.is("those that touch no body", x.bodies(1), 16 + 32 + 64);
     Due.is("those that touch a wall", x.bodies(2), 2 + 16 + 32 + 64);
@@ -308,6 +367,28 @@ public final class WhatThereIsTest {
     Due.is("undo()", x.undo(), 1);
     Due.is("bodyOf(0, 2)", x.bodyOf(0, 2), 10);
     Due.is("bodyOf(0, 4)", x.bodyOf(0, 4), 12);
+  }
+
+  private static void promise17LongHistory() {
+    JammedBodies x = Due.with(60, 10, Due.rectangle(0, 0, 1, 1));
+    for (int changes = 1; changes <= 40; changes++) {
+      Due.is("slide(0, 0, 1)", x.slide(0, 0, 1), 1);
+      Due.is("count(6)", x.count(6), Math.min(4, changes + 2));
+      if (changes % 5 == 0) {
+        for (int back = 1; back <= 4; back++) {
+          Due.is("undo()", x.undo(), 4 - back);
+          Due.is("bodyOf(0, 2)", x.bodyOf(0, 2), changes - back);
+        }
+        Due.is("undo() of what was dropped", x.undo(), Due.IMPOSSIBLE);
+        for (int again = 1; again <= 4; again++) {
+          Due.is("slide(0, 0, 1)", x.slide(0, 0, 1), 1);
+        }
+      } else {
+        Due.is("undo()", x.undo(), Math.min(4, changes + 2) - 1);
+        Due.is("bodyOf(0, 2)", x.bodyOf(0, 2), changes - 1);
+        Due.is("slide(0, 0, 1)", x.slide(0, 0, 1), 1);
+      }
+    }
   }
 
   private static void promise17EveryChange() {
