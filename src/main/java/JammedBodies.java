@@ -499,10 +499,13 @@ public final class JammedBodies {
         /** How far to the left of a side the other body reaches: the side parts them if this is not above 0. */
         int reach(int side, Body other) {
             int next = following(side);
+            int fromX = x(side);
+            int fromY = y(side);
+            int toX = x(next);
+            int toY = y(next);
             int farthest = FAR_TO_THE_RIGHT;
             for (int k = 0; k < other.corners; k++) {
-                int left = cross(x(side), y(side), x(next), y(next), other.x(k), other.y(k));
-                farthest = Math.max(farthest, left);
+                farthest = Math.max(farthest, cross(fromX, fromY, toX, toY, other.x(k), other.y(k)));
             }
             return farthest;
         }
@@ -531,16 +534,13 @@ public final class JammedBodies {
 
         int nearestCorner(int side, Body other) {
             int next = following(side);
-            int nearest = 0;
-            int farthest = FAR_TO_THE_RIGHT;
+            int farthest = reach(side, other);
             for (int k = 0; k < other.corners; k++) {
-                int left = cross(x(side), y(side), x(next), y(next), other.x(k), other.y(k));
-                if (left > farthest) {
-                    farthest = left;
-                    nearest = k;
+                if (cross(x(side), y(side), x(next), y(next), other.x(k), other.y(k)) == farthest) {
+                    return k;
                 }
             }
-            return nearest;
+            return 0;
         }
 
         int cornerOutside(int width, int height) {
