@@ -96,7 +96,7 @@ public final class ModelTest {
   }
 
   private int anyBody() {
-    int bodies = real.count(0);
+    int bodies = model.call("count", 0, 0, 0);
     return random.nextInt(30) == 0 ? bodies - 1 + 2 * random.nextInt(2) - bodies * random.nextInt(2) : random.nextInt(bodies + 1);
   }
 
@@ -178,37 +178,12 @@ public final class ModelTest {
   private void askAs(String name, int a, int b, int c) {
     if (calls >= CALLS) return;
     calls++;
-    int got = real(name, a, b, c);
+    int got = new Call(name, a, b, c).on(real);
     int want = model.call(name, a, b, c);
     Due.is("run " + run + ", call " + calls + ": " + name + "(" + a + ", " + b + ", " + c + ")", got, want);
     if (name.equals("box") || name.equals("undo")) {
-      width = real.count(1);
-      height = real.count(2);
-    }
-  }
-
-  private int real(String name, int a, int b, int c) {
-    switch (name) {
-      case "box": return real.box(a, b);
-      case "put": return real.put();
-      case "remove": return real.remove(a);
-      case "empty": return real.empty();
-      case "slide": return real.slide(a, b, c);
-      case "turn": return real.turn(a);
-      case "settle": return real.settle(a);
-      case "bodyOf": return real.bodyOf(a, b);
-      case "parts": return real.parts(a, b, c);
-      case "way": return real.way(a, b, c);
-      case "bodies": return real.bodies(a);
-      case "group": return real.group(a);
-      case "density": return real.density();
-      case "keystone": return real.keystone(a, b);
-      case "count": return real.count(a);
-      case "undo": return real.undo();
-      case "type": return real.type(a);
-      case "clearText": return real.clearText();
-      case "fault": return real.fault(a);
-      default: throw new IllegalArgumentException(name);
+      width = model.call("count", 1, 0, 0);
+      height = model.call("count", 2, 0, 0);
     }
   }
 }
