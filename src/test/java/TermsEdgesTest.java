@@ -311,10 +311,18 @@ public final class TermsEdgesTest {
     String block = Due.rectangle(4, 4, 6, 6);
     String[] around = {Due.rectangle(6, 5, 7, 6), Due.rectangle(4, 6, 5, 7), Due.rectangle(3, 4, 4, 5),
         Due.rectangle(5, 3, 6, 4)};
-    JammedBodies all = Due.with(10, 10, block, around[0], around[1], around[2], around[3]);
-    Due.is("jammed on four sides", all.bodyOf(0, 9), 1);
-    Due.is("its free directions", all.bodyOf(0, 8), 0);
-    Due.is("bodies(0)", all.bodies(0), 1);
+    for (int number = 0; number <= 4; number++) {
+      String[] all = new String[5];
+      for (int k = 0; k < 5; k++) {
+        all[k] = k == number ? block : around[k < number ? k : k - 1];
+      }
+      JammedBodies x = Due.with(10, 10, all);
+      for (int k = 0; k < 5; k++) {
+        Due.is("body " + k + ", where " + number + " is jammed on four sides", x.bodyOf(k, 9), k == number ? 1 : 0);
+      }
+      Due.is("its free directions", x.bodyOf(number, 8), 0);
+      Due.is("bodies(0)", x.bodies(0), 1 << number);
+    }
     for (int open = 0; open < 4; open++) {
       String[] three = new String[3];
       for (int k = 0; k < 3; k++) {

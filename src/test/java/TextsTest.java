@@ -100,15 +100,15 @@ public final class TextsTest {
     fault(x, "8,8;12,8;8,12;8,8;12,8;8,12", 0, 3, 6);
     fault(x, "10,14;8,8;13,12;7,12;12,8;11,11", 0, 3, 5);
     fault(x, "0,0;4,4;4,0", 0, 3, 0);
-    Due.is("box(60, 60)", x.box(60, 60), 2020);
     int[][] star = {{30, 50}, {18, 14}, {49, 36}, {11, 36}, {42, 14}};
     int[][] twice = {{20, 10}, {40, 10}, {30, 30}, {20, 11}, {41, 10}, {30, 31}};
     for (int quarter = 0; quarter < 4; quarter++) {
       for (int first = 0; first < 6; first++) {
-        fault(x, turned(star, first % 5, quarter), 0, 3, 5);
-        fault(x, turned(twice, first, quarter), 0, 3, 6);
+        JammedBodies large = Due.with(60, 60);
+        fault(large, turned(star, first % 5, quarter), 0, 3, 5);
+        fault(large, turned(twice, first, quarter), 0, 3, 6);
         int[][] small = {{50, 14}, {48, 8}, {54, 12}, {46, 12}, {52, 8}};
-        fault(x, turned(small, first % 5, quarter), 0, 3, 5);
+        fault(large, turned(small, first % 5, quarter), 0, 3, 5);
       }
     }
   }
