@@ -314,6 +314,9 @@ public final class PromisesEdgesTest {
       JammedBodies x = Due.with(20, 20, Due.rectangle(0, 0, 4, 4), text.toString());
       Due.is("the nearest corner of " + text, x.parts(0, 1, 1), due[first]);
     }
+    JammedBodies low = Due.with(10, 10, "0,2;4,6;0,6", "4,0;4,4;0,0");
+    Due.is("two corners along a slope, of which one is at 0,0", low.parts(0, 1, 1), 1);
+    Due.is("the triangle", low.parts(0, 1, 2), 8);
   }
 
   private static void promise11What() {
